@@ -153,7 +153,7 @@ public final class ArrayText {
         }
 
         static int lines(int shape) {
-            return isTable(shape) ? shape >> LINES_SHIFT : 1;
+            return shape > LENGTH_MASK ? shape >> LINES_SHIFT : 1;
         }
 
         static int length(int shape) {
@@ -258,7 +258,10 @@ public final class ArrayText {
         }
     }
 
-    /** A part, or a sign or front with what it stands between or before. */
+    /**
+     * A name (number: its variable), i (number: the one behind it) or constant (result: its numbers),
+     * or a sign or front with the nodes of what it works on.
+     */
     private static final class Node {
         int kind;
         char sign;
@@ -294,6 +297,10 @@ public final class ArrayText {
             }
         }
 
+        void clear() {
+            count = 0;
+        }
+
         Node add() {
             if (count >= MOST_NODES) {
                 throw new IllegalArgumentException("more parts than a text can hold");
@@ -319,7 +326,7 @@ public final class ArrayText {
     private static final class Parser {
         static Node readWhole(Text text, Tree tree) {
             text.startReading();
-            tree.count = 0;
+            tree.clear();
             Node whole = readExpression(text, tree, 0);
             if (text.next() != NO_SIGN) {
                 throw new IllegalArgumentException("more than an expression");
@@ -345,25 +352,20 @@ public final class ArrayText {
         }
 
         private static Node readPart(Text text, Tree tree, int depth) {
-            if (!text.passIfNext('(')) {
-                return readLeaf(text, tree.add());
+            if (text.passIfNext('(')) {
+                Node inside = readExpression(text, tree, depth + 1);
+                if (!text.passIfNext(')')) {
+                    throw new IllegalArgumentException("no closing parenthesis");
+                }
+                return inside;
             }
-            Node inside = readExpression(text, tree, depth + 1);
-            if (!text.passIfNext(')')) {
-                throw new IllegalArgumentException("no closing parenthesis");
-            }
-            return inside;
-        }
-
-        private static Node readLeaf(Text text, Node node) {
-            char sign = text.next();
-            if (sign >= 'a' && sign < 'a' + VARIABLES) {
+            Node node = tree.add();
+            if (isVariable(text.next() - 'a')) {
                 node.kind = NAME;
-                node.number = sign - 'a';
+                node.number = text.next() - 'a';
                 text.pass();
-            } else if (sign == 'i') {
+            } else if (text.passIfNext('i')) {
                 node.kind = COUNT;
-                text.pass();
                 node.number = readNumber(text);
             } else {
                 node.kind = CONSTANT;
@@ -549,13 +551,15 @@ public final class ArrayText {
         }
 
         private static void countUp(NumberArray to) {
-            for (int k = 0; k < to.count(); k++) {
+            int count = to.count();
+            for (int k = 0; k < count; k++) {
                 to.elements[k] = k;
             }
         }
 
         private static void negate(NumberArray from, NumberArray to) {
-            for (int k = 0; k < to.count(); k++) {
+            int count = to.count();
+            for (int k = 0; k < count; k++) {
                 to.elements[k] = -from.elements[k];
             }
         }
@@ -575,8 +579,9 @@ public final class ArrayText {
         }
 
         private static void reduce(char sign, NumberArray from, NumberArray to) {
+            int lines = Shapes.lines(from.shape);
             int length = Shapes.length(from.shape);
-            for (int i = 0; i < Shapes.lines(from.shape); i++) {
+            for (int i = 0; i < lines; i++) {
                 double sofar = from.elements[i * length];
                 for (int j = 1; j < length; j++) {
                     sofar = combined(sign, sofar, from.elements[i * length + j]);
@@ -586,8 +591,9 @@ public final class ArrayText {
         }
 
         private static void runAlong(char sign, NumberArray from, NumberArray to) {
+            int lines = Shapes.lines(from.shape);
             int length = Shapes.length(from.shape);
-            for (int i = 0; i < Shapes.lines(from.shape); i++) {
+            for (int i = 0; i < lines; i++) {
                 double sofar = from.elements[i * length];
                 to.elements[i * length] = sofar;
                 for (int j = 1; j < length; j++) {
@@ -598,7 +604,8 @@ public final class ArrayText {
         }
 
         private static void combineEach(char sign, NumberArray x, NumberArray y, NumberArray to) {
-            for (int k = 0; k < to.count(); k++) {
+            int count = to.count();
+            for (int k = 0; k < count; k++) {
                 to.elements[k] = combined(sign, elementFor(x, k), elementFor(y, k));
             }
         }
@@ -610,16 +617,19 @@ public final class ArrayText {
 
         private static void join(NumberArray x, NumberArray y, NumberArray to) {
             int first = x.count();
-            for (int k = 0; k < to.count(); k++) {
+            int count = to.count();
+            for (int k = 0; k < count; k++) {
                 to.elements[k] = k < first ? x.elements[k] : y.elements[k - first];
             }
         }
 
         private static void fillAnew(NumberArray from, NumberArray to) {
+            int count = to.count();
+            int last = from.count() - 1;
             int next = 0;
-            for (int k = 0; k < to.count(); k++) {
+            for (int k = 0; k < count; k++) {
                 to.elements[k] = from.elements[next];
-                next = next + 1 < from.count() ? next + 1 : 0;
+                next = next < last ? next + 1 : 0;
             }
         }
 
