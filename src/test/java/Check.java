@@ -2,6 +2,7 @@
 final class Check {
     private static int wrong = 0;
     private static int asked = 0;
+    private static String sentence = "";
 
     final ArrayText object = new ArrayText();
 
@@ -21,6 +22,15 @@ final class Check {
             chars = chars << 8 | signs.charAt(k);
         }
         return chars;
+    }
+
+    /** Variable v becomes an array of this shape with these elements first, zeros behind them. */
+    Check fill(int v, int shape, double... elements) {
+        due("shape(" + v + ", " + shape + ")", object.shape(v, shape), true);
+        for (int i = 0; i < elements.length; i++) {
+            due("set(" + v + ", " + i + ", " + elements[i] + ")", object.set(v, i, elements[i]), true);
+        }
+        return this;
     }
 
     String run(int v) {
@@ -46,7 +56,8 @@ final class Check {
     /** Shape and elements of a variable, as "shape: element element ..". */
     String variable(int v) {
         StringBuilder all = new StringBuilder().append(object.shapeOf(v)).append(':');
-        for (int i = 0; i < object.size(v); i++) {
+        int size = object.size(v);
+        for (int i = 0; i < size; i++) {
             // Added to 0, so that a negative 0 reads as the 0 that it equals.
             double x = object.at(v, i) + 0.0;
             all.append(' ').append(x == Math.rint(x) ? String.valueOf((long) x) : String.valueOf(x));
@@ -63,31 +74,43 @@ final class Check {
         return all.append(object.made()).append(' ').append(object.runs()).toString();
     }
 
-    /** Runs the text into variable 7 and holds the result against what is due. */
-    void works(String signs, String want) {
-        text(signs);
-        String answer = run(7);
-        due("run of " + signs, answer.startsWith("throws.") ? answer : variable(7), want);
-        if (!answer.startsWith("throws.")) {
-            due("elements by " + signs, answer, String.valueOf(object.size(7)));
+    /** What the text comes to: how it is seen in variable 7 after a run into it, or what the run throws. */
+    String result(String signs) {
+        String answer = text(signs).run(7);
+        if (answer.startsWith("throws.")) {
+            return answer;
         }
+        due("elements by " + signs, answer, String.valueOf(object.size(7)));
+        return variable(7);
     }
 
-    /** Both run and look throw this for the text, and nothing changes by it. */
-    void refuses(String signs, String exception) {
-        text(signs);
-        String before = state();
-        due("look at " + signs, look(), "throws." + exception);
-        due("run of " + signs, run(7), "throws." + exception);
-        due("state after " + signs, state(), before);
-        due("text after " + signs, object.erase(), signs.length());
+    /** All that can be seen of an object, the text too: by running it, erasing it and going on with another. */
+    String everything() {
+        StringBuilder all = new StringBuilder(state());
+        all.append(" | look ").append(look());
+        all.append(" | run ").append(run(7)).append(' ').append(variable(7));
+        all.append(" | made ").append(object.made()).append(" runs ").append(object.runs());
+        all.append(" | erase ").append(object.erase());
+        all.append(" | then ").append(result("(a=a),1 2")).append(' ').append(look());
+        all.append(" | made ").append(object.made()).append(" runs ").append(object.runs());
+        return all.append(" | erase ").append(object.erase()).toString();
+    }
+
+    /** The answers from here on show this sentence of the document; it is told with each that is wrong. */
+    static void sentence(String section, String words) {
+        sentence = section + ", \"" + words + "\": ";
+        Document.quote(section, words);
+    }
+
+    static void noSentence() {
+        sentence = "";
     }
 
     static void due(String what, Object got, Object want) {
         asked++;
         if (!got.equals(want)) {
             wrong++;
-            System.out.println(what + " answered " + got + ", due is " + want);
+            System.out.println(sentence + what + " answered " + got + ", due is " + want);
         }
     }
 

@@ -10,6 +10,7 @@ public final class ModelTest {
     private static final int CALLS = 470;
     private static final String SIGNS = "++-**<>=&|,,#";
     private static final String[] FRONTS = {"-", "~", "/+", "/*", "/&", "/|", "\\+", "\\*", "\\&", "\\|"};
+    private static final String FEW = "abi129( )+-,#~/\\";
     private static final String ANY = "aabcdefghi()0123456789 +-*<>=&|,#~/\\./j";
 
     private final Random random;
@@ -26,9 +27,25 @@ public final class ModelTest {
         for (int k = 0; k < OBJECTS; k++) {
             new ModelTest(k).calls();
         }
+        for (int length = 0; length <= 4; length++) {
+            everyText("", length);
+        }
         System.out.println(seen);
         everyOutcomeWasSeen();
         Check.end();
+    }
+
+    /** All texts of so many more of these signs, with a and b as a new object has them. */
+    private static void everyText(String text, int more) {
+        if (more == 0) {
+            Model model = new Model();
+            model.write(Check.packed(text));
+            Check.due("look at " + text, new Check().text(text).look(), model.look());
+            return;
+        }
+        for (char sign : FEW.toCharArray()) {
+            everyText(text + sign, more - 1);
+        }
     }
 
     /** Or the runs would show less than they seem to. */

@@ -1,11 +1,5 @@
 /** Promises 10 to 13: what run and look answer, change and throw, made and runs. */
-public final class RunTest {
-    private static final String INDEX = "throws.IndexOutOfBoundsException";
-    private static final String TEXT = "IllegalArgumentException";
-    private static final String SHAPE = "IllegalStateException";
-    private static final String SIZE = "UnsupportedOperationException";
-    private static final String RANGE = "throws.ArithmeticException";
-
+public final class RunTest extends Cases {
     public static void main(String[] args) {
         parts();
         eachElement();
@@ -26,36 +20,6 @@ public final class RunTest {
         countsRuns();
         longTexts();
         Check.end();
-    }
-
-    /** a 3; b 1.5 2 -0.5 4; c a row of one, 5; d 1 2 3 / 4 5 6; e a row of 24; f 1000000000000; g 1000000; h 0. */
-    private static Check prepared() {
-        Check c = new Check();
-        c.object.put(0, 3.0);
-        fill(c, 1, 4, 1.5, 2.0, -0.5, 4.0);
-        fill(c, 2, 1, 5.0);
-        fill(c, 3, 32 * 2 + 3, 1.0, 2.0, 3.0, 4.0, 5.0, 6.0);
-        c.object.shape(4, 24);
-        c.object.put(5, 1000000000000.0);
-        c.object.put(6, 1000000.0);
-        return c;
-    }
-
-    private static void fill(Check c, int v, int shape, double... elements) {
-        c.object.shape(v, shape);
-        for (int i = 0; i < elements.length; i++) {
-            c.object.set(v, i, elements[i]);
-        }
-    }
-
-    private static void works(String text, String want) {
-        prepared().works(text, want);
-    }
-
-    private static void refuses(String exception, String... texts) {
-        for (String text : texts) {
-            prepared().refuses(text, exception);
-        }
     }
 
     private static void parts() {
@@ -169,9 +133,9 @@ public final class RunTest {
         works("/+3 1#i3", "3: 0 1 2");
         works("/+/+d", "0: 21");
         Check c = prepared();
-        fill(c, 0, 3, 0.1, 0.2, 0.3);
+        c.fill(0, 3, 0.1, 0.2, 0.3);
         c.text("/+a").run(0);
-        Check.due("from the first on", c.object.at(0, 0), 0.1 + 0.2 + 0.3);
+        due("from the first on", c.object.at(0, 0), 0.1 + 0.2 + 0.3);
     }
 
     private static void runsAlong() {
@@ -236,18 +200,6 @@ public final class RunTest {
         refuses(SIZE, "(i0)+f*f", "(f*f)+i0", "25#f*f");
     }
 
-    private static void outOfRange(String text, int shape) {
-        Check c = prepared();
-        c.text("1,2").run(6);
-        c.object.put(6, 1000000.0);
-        c.text(text);
-        String before = c.state();
-        Check.due("look at " + text, c.look(), String.valueOf(shape));
-        Check.due("run of " + text, c.run(7), RANGE);
-        Check.due("state after " + text, c.state(), before);
-        Check.due("text after " + text, c.object.erase(), text.length());
-    }
-
     private static void rangeErrors() {
         works("f", "0: 1000000000000");
         works("-f", "0: -1000000000000");
@@ -286,39 +238,39 @@ public final class RunTest {
     private static void whereResultsGo() {
         Check c = prepared();
         c.text("b,b");
-        Check.due("into b itself", c.run(1), "8");
-        Check.due("b twice", c.variable(1), "8: 1.5 2 -0.5 4 1.5 2 -0.5 4");
-        Check.due("the text stays", c.run(1), "16");
-        Check.due("too many now", c.run(1), "throws." + SIZE);
-        Check.due("b stays", c.object.size(1), 16);
-        Check.due("others stay", c.variable(0) + " " + c.variable(3), "0: 3 67: 1 2 3 4 5 6");
+        due("into b itself", c.run(1), "8");
+        due("b twice", c.variable(1), "8: 1.5 2 -0.5 4 1.5 2 -0.5 4");
+        due("the text stays", c.run(1), "16");
+        due("too many now", c.run(1), SIZE);
+        due("b stays", c.object.size(1), 16);
+        due("others stay", c.variable(0) + " " + c.variable(3), "0: 3 67: 1 2 3 4 5 6");
         c.text("2");
-        Check.due("a shorter one", c.run(1), "1");
-        Check.due("a number alone again", c.variable(1), "0: 2");
-        Check.due("nothing behind it", c.object.at(1, 1), 0.0);
+        due("a shorter one", c.run(1), "1");
+        due("a number alone again", c.variable(1), "0: 2");
+        due("nothing behind it", c.object.at(1, 1), 0.0);
         c.text("~d");
-        Check.due("a table into itself", c.run(3), "6");
-        Check.due("turned", c.variable(3), "98: 1 4 2 5 3 6");
+        due("a table into itself", c.run(3), "6");
+        due("turned", c.variable(3), "98: 1 4 2 5 3 6");
         c.text("1 2 3");
         c.run(0);
         c.object.set(0, 1, 9.0);
         c.run(1);
-        Check.due("a constant is the same each time", c.variable(1), "3: 1 2 3");
-        Check.due("set after run stays", c.variable(0), "3: 1 9 3");
+        due("a constant is the same each time", c.variable(1), "3: 1 2 3");
+        due("set after run stays", c.variable(0), "3: 1 9 3");
         c.text("a");
         c.run(2);
         c.object.set(0, 0, 7.0);
-        Check.due("a copy, not the same array", c.variable(2), "3: 1 9 3");
+        due("a copy, not the same array", c.variable(2), "3: 1 9 3");
     }
 
     private static void whichVariable() {
         for (int v = 0; v < 8; v++) {
             Check c = prepared();
             c.text("20+1 2");
-            Check.due("run(" + v + ")", c.run(v), "2");
-            Check.due("variable " + v, c.variable(v), "2: 21 22");
+            due("run(" + v + ")", c.run(v), "2");
+            due("variable " + v, c.variable(v), "2: 21 22");
             c.text(String.valueOf((char) ('a' + v)));
-            Check.due("its name", c.look(), "2");
+            due("its name", c.look(), "2");
         }
         String[] texts = {"", "a", "1 ", "b+c", "i0", "f*f"};
         int[] none = {-1, 8, Integer.MIN_VALUE, Integer.MAX_VALUE};
@@ -327,8 +279,8 @@ public final class RunTest {
                 Check c = prepared();
                 c.text(text);
                 String before = c.state();
-                Check.due("run(" + v + ") of " + text, c.run(v), INDEX);
-                Check.due("state after it", c.state(), before);
+                due("run(" + v + ") of " + text, c.run(v), INDEX);
+                due("state after it", c.state(), before);
             }
         }
     }
@@ -341,17 +293,17 @@ public final class RunTest {
             Check c = prepared();
             c.text(row[0]);
             String before = c.state();
-            Check.due("look at " + row[0], c.look(), row[1]);
-            Check.due("state after look at " + row[0], c.state(), before);
-            Check.due("look again at " + row[0], c.look(), row[1]);
-            Check.due("text after look at " + row[0], c.object.erase(), row[0].length());
+            due("look at " + row[0], c.look(), row[1]);
+            due("state after look at " + row[0], c.state(), before);
+            due("look again at " + row[0], c.look(), row[1]);
+            due("text after look at " + row[0], c.object.erase(), row[0].length());
         }
         Check c = prepared();
         c.text("a");
         c.object.shape(0, 67);
-        Check.due("the variables as they are", c.look(), "67");
+        due("the variables as they are", c.look(), "67");
         c.object.put(0, 1.0);
-        Check.due("and as they are then", c.look(), "0");
+        due("and as they are then", c.look(), "0");
     }
 
     private static void arraysMade() {
@@ -364,20 +316,20 @@ public final class RunTest {
         for (Object[] row : rows) {
             Check c = prepared();
             c.text((String) row[0]).run(7);
-            Check.due("made by " + row[0], c.object.made(), row[1]);
+            due("made by " + row[0], c.object.made(), row[1]);
         }
         Check c = prepared();
         c.text("1,2,3").look();
-        Check.due("look makes none", c.object.made(), 0);
+        due("look makes none", c.object.made(), 0);
         c.run(7);
         c.text("b+c").run(7);
         c.text("1,2,3,4+").run(7);
         c.text("~~~~f+1").run(7);
         c.text("~~~~1").run(8);
         c.text("~~~~1").look();
-        Check.due("of the latest that threw nothing", c.object.made(), 2);
+        due("of the latest that threw nothing", c.object.made(), 2);
         c.text("1").run(7);
-        Check.due("of that alone", c.object.made(), 1);
+        due("of that alone", c.object.made(), 1);
     }
 
     private static void countsRuns() {
@@ -385,17 +337,17 @@ public final class RunTest {
         c.text("a").run(0);
         c.text("b").run(0);
         c.look();
-        Check.due("two runs", c.object.runs(), 2);
+        due("two runs", c.object.runs(), 2);
         c.run(8);
         c.run(-1);
         c.text("b+c").run(0);
         c.text("i0").run(0);
         c.text("a+").run(0);
         c.text("f*f").run(0);
-        Check.due("still two", c.object.runs(), 2);
+        due("still two", c.object.runs(), 2);
         c.text("1").run(0);
         c.run(0);
-        Check.due("four", c.object.runs(), 4);
+        due("four", c.object.runs(), 4);
     }
 
     /** Texts of 40 characters, as deep and with as many parts as there can be. */
