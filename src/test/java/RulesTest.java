@@ -24,6 +24,7 @@ public final class RulesTest {
 
     public static void main(String[] args) throws Exception {
         face();
+        faceOfTheDocument();
         classesInside();
         members();
         source();
@@ -45,6 +46,22 @@ public final class RulesTest {
         for (Field f : ArrayText.class.getDeclaredFields()) {
             Check.due("private " + f, Modifier.isPrivate(f.getModifiers()), true);
         }
+    }
+
+    /** The lines of the document's face, so that a change of its words is seen here. */
+    private static void faceOfTheDocument() throws Exception {
+        Path document = Path.of("../shared/DOC.md");
+        if (!Files.isReadable(document)) {
+            System.out.println("the face is not held against " + document + ": it cannot be read");
+            return;
+        }
+        Set<String> methods = new TreeSet<>();
+        Matcher line = Pattern.compile("    public (\\w+ \\w+)\\((.*?)\\)(.*);").matcher(Files.readString(document));
+        while (line.find()) {
+            String takes = line.group(2).replaceAll(" \\w+(,|$)", "$1");
+            methods.add(line.group(1) + "(" + takes + ")" + line.group(3).replace(",", ""));
+        }
+        Check.due("the document's face", methods, FACE);
     }
 
     private static String written(Method m) {
